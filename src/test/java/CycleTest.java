@@ -370,10 +370,12 @@ public final class CycleTest {
     private static void updatingTakesAUnitARegion() {
         for (int regions = 3; regions <= 16; regions++) {
             ForwardHeap heap = new ForwardHeap(regions, 0);
-            heap.begin();
-            CHECK.due("updating", heap.work(2), 3);
-            CHECK.due("all but one", heap.work(regions - 1), 3);
-            CHECK.due("the last one", heap.work(1), 0);
+            for (int cycle = 0; cycle < 3; cycle++) {
+                heap.begin();
+                CHECK.due("updating", heap.work(2), 3);
+                CHECK.due("all but one", heap.work(regions - 1), 3);
+                CHECK.due("the last one", heap.work(1), 0);
+            }
         }
         ForwardHeap heap = twoInTheSet();
         CHECK.due("all but one", heap.work(2 + 1 + 3), 3);
@@ -398,5 +400,16 @@ public final class CycleTest {
         CHECK.due("the active one stays", heap.region(1, 0), 1);
         CHECK.due("seen in the latest", heap.region(1, 2), 22);
         CHECK.due("none waits", heap.count(2), 0);
+        wholeCollectionOfAGoingCycle();
+    }
+
+    /** The going cycle still moves both objects; the next one empties their region of the dropped one. */
+    private static void wholeCollectionOfAGoingCycle() {
+        ForwardHeap heap = twoInTheSet();
+        heap.drop(0);
+        CHECK.due("regions 2 and 3 behind both cycles", heap.collect(), 2);
+        CHECK.due("moved three times", heap.count(0), 3);
+        CHECK.due("the other one", heap.where(2), 0);
+        CHECK.due("region 2 is free", heap.region(2, 0), 0);
     }
 }

@@ -39,6 +39,7 @@ public final class NewHeapTest {
         CHECK.due("2 words over 0", emptied(0, false), true);
         CHECK.due("2 words over 1", emptied(1, false), true);
         CHECK.due("2 words over 2", emptied(2, false), false);
+        CHECK.due("no words over a threshold below 0", emptiedWithoutGarbage(-5), false);
         CHECK.due("128 words over 127", emptied(127, true), true);
         CHECK.due("128 words over 128", emptied(128, true), false);
         CHECK.due("128 words over a threshold above 128", emptied(Integer.MAX_VALUE, true), false);
@@ -59,6 +60,15 @@ public final class NewHeapTest {
             heap.drop(5);
         }
         heap.alloc(9, 20, 1);
+        heap.collect();
+        return heap.region(0, 0) == 0;
+    }
+
+    private static boolean emptiedWithoutGarbage(int threshold) {
+        ForwardHeap heap = new ForwardHeap(3, threshold);
+        for (int register = 0; register < 6; register++) {
+            heap.alloc(register, 20, 1);
+        }
         heap.collect();
         return heap.region(0, 0) == 0;
     }
