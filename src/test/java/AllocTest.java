@@ -4,9 +4,7 @@ public final class AllocTest {
 
     public static void main(String[] args) {
         oneBehindTheOther();
-        fieldsHoldNothing();
         fullRegionIsClosed();
-        wrongInputs();
         collectionMakesRoom();
         registerIsHeldUntilThen();
         noRoomAtAll();
@@ -25,16 +23,6 @@ public final class AllocTest {
         CHECK.due("the register holds the later one", heap.tag(0), 2);
     }
 
-    private static void fieldsHoldNothing() {
-        ForwardHeap heap = new ForwardHeap(3, 0);
-        heap.alloc(0, 20, 1);
-        for (int i = 0; i < 20; i++) {
-            heap.move(1, 0);
-            CHECK.due("field " + i, heap.read(1, 0, i), 0);
-            CHECK.due("register", heap.where(1), -1);
-        }
-    }
-
     private static void fullRegionIsClosed() {
         ForwardHeap heap = new ForwardHeap(3, 0);
         for (int k = 0; k < 5; k++) {
@@ -47,19 +35,6 @@ public final class AllocTest {
         CHECK.due("closed", heap.region(0, 0), 3);
         CHECK.due("the next is active", heap.region(1, 0), 1);
         CHECK.due("the next but one is free", heap.region(2, 0), 0);
-    }
-
-    private static void wrongInputs() {
-        ForwardHeap heap = new ForwardHeap(3, 0);
-        heap.alloc(0, 20, 1);
-        for (int bad : new int[] {-1, 10, Integer.MIN_VALUE, Integer.MAX_VALUE}) {
-            CHECK.refused("register " + bad, heap, IndexOutOfBoundsException.class, () -> heap.alloc(bad, 1, 1));
-            CHECK.refused("register " + bad + " first", heap, IndexOutOfBoundsException.class,
-                () -> heap.alloc(bad, 21, 1));
-        }
-        for (int bad : new int[] {-1, 21, Integer.MIN_VALUE, Integer.MAX_VALUE}) {
-            CHECK.refused("fields " + bad, heap, IllegalArgumentException.class, () -> heap.alloc(0, bad, 1));
-        }
     }
 
     private static void collectionMakesRoom() {

@@ -54,7 +54,8 @@ final class Check {
             state.add(place);
             state.add(place == ForwardHeap.NONE ? 0 : heap.tag(register));
         }
-        for (int i = 0; i < regionsOf(heap); i++) {
+        int regions = regionsOf(heap);
+        for (int i = 0; i < regions; i++) {
             for (int what = 0; what < 3; what++) {
                 state.add(heap.region(i, what));
             }

@@ -43,9 +43,6 @@ public final class CycleTest {
         CHECK.due("no cycle", heap.work(0), 0);
         heap.alloc(0, 1, 1);
         heap.begin();
-        for (int bad : new int[] {-1, 10001, Integer.MIN_VALUE, Integer.MAX_VALUE}) {
-            CHECK.refused("work(" + bad + ")", heap, IllegalArgumentException.class, () -> heap.work(bad));
-        }
         CHECK.due("no unit", heap.work(0), 1);
         CHECK.due("still waits", heap.count(2), 1);
         CHECK.due("a whole cycle", heap.work(10000), 0);

@@ -1,10 +1,15 @@
 import java.util.Random;
 import java.util.function.IntSupplier;
 
-/** All promises at once: long runs of drawn calls answer as the plain model does. */
+/**
+ * All promises at once: long runs of drawn calls answer as the plain model does, and all that the heap tells
+ * behind them is as the model tells it. No heap is used for more than 512 calls, as no more is promised.
+ */
 public final class ModelTest {
-    private static final int RUNS = 1500;
+    private static final int RUNS = 8000;
     private static final int CALLS = 512;
+    /** Of 16 regions five whats, ten registers, five counts, the phase. */
+    private static final int CALLS_OF_STATE = 96;
     private static final Check CHECK = new Check();
 
     private static long moved = 0;
@@ -30,9 +35,11 @@ public final class ModelTest {
         int units = 1 + random.nextInt(12);
         ForwardHeap heap = new ForwardHeap(regions, threshold);
         PlainModel model = new PlainModel(regions, threshold);
-        for (int call = 0; call < CALLS; call++) {
+        int calls = run % 2 == 0 ? CALLS - CALLS_OF_STATE : random.nextInt(CALLS - CALLS_OF_STATE);
+        for (int call = 0; call < calls; call++) {
             step("run " + run + ", call " + call, random, heap, model, allocs, units);
         }
+        compareState("behind run " + run, heap, model);
         moved += model.moved;
         failed += model.failed;
     }
@@ -44,7 +51,8 @@ public final class ModelTest {
         int fields = random.nextInt(40) == 0 ? random.nextInt(26) - 2 : random.nextInt(21);
         int n = random.nextInt(60) == 0 ? random.nextInt(20100) - 50 : random.nextInt(units);
         int tag = random.nextInt(100) - 20;
-        int kind = random.nextInt(14 + allocs);
+        int what = random.nextInt(5) - 1;
+        int kind = random.nextInt(18 + allocs);
         switch (kind) {
             case 0 -> both(at + " move", () -> { heap.move(a, b); return 0; }, () -> model.move(a, b));
             case 1 -> both(at + " drop", () -> heap.drop(a) ? 1 : 0, () -> model.drop(a));
@@ -54,7 +62,10 @@ public final class ModelTest {
             case 9 -> both(at + " same", () -> heap.same(a, b) ? 1 : 0, () -> model.same(a, b));
             case 10 -> both(at + " begin", heap::begin, model::begin);
             case 11, 12 -> both(at + " work", () -> heap.work(n), () -> model.work(n));
-            case 13 -> {
+            case 13 -> both(at + " where", () -> heap.where(a), () -> model.where(a));
+            case 14, 15 -> both(at + " region", () -> heap.region(a, what), () -> model.region(a, what));
+            case 16 -> both(at + " count", () -> heap.count(what), () -> model.count(what));
+            case 17 -> {
                 if (tag > 70) {
                     both(at + " collect", heap::collect, model::collect);
                 }
@@ -64,7 +75,6 @@ public final class ModelTest {
                 refusedAllocs += got == -1 ? 1 : 0;
             }
         }
-        compareState(at, heap, model);
     }
 
     private static void compareState(String at, ForwardHeap heap, PlainModel model) {

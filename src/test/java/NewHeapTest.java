@@ -5,6 +5,7 @@ public final class NewHeapTest {
     public static void main(String[] args) {
         regionsAreBroughtIntoBounds();
         allIsEmptyAtFirst();
+        allRegionsAreUsed();
         thresholdIsBroughtIntoBounds();
         CHECK.end();
     }
@@ -14,6 +15,20 @@ public final class NewHeapTest {
         int[] want = {3, 3, 3, 3, 3, 4, 15, 16, 16, 16};
         for (int k = 0; k < asked.length; k++) {
             CHECK.due("regions of " + asked[k], Check.regionsOf(new ForwardHeap(asked[k], 0)), want[k]);
+        }
+    }
+
+    /** So many regions that are counted, and objects come into all of them. */
+    private static void allRegionsAreUsed() {
+        int[] asked = {2, 3, 4, 15, 16, 17};
+        int[] want = {3, 3, 4, 15, 16, 16};
+        for (int k = 0; k < asked.length; k++) {
+            ForwardHeap heap = new ForwardHeap(asked[k], 128);
+            for (int region = 0; region < want[k]; region++) {
+                CHECK.due("begins a region", heap.alloc(0, 0, 1), 128 * region);
+                Fill.oneRegister(heap, 0, 126);
+            }
+            CHECK.due("behind the last of " + want[k], heap.alloc(0, 0, 1), ForwardHeap.NONE);
         }
     }
 
@@ -36,13 +51,17 @@ public final class NewHeapTest {
     /** Region 0 is closed with 2 words of garbage and 110 in use, or with 128 words of garbage. */
     private static void thresholdIsBroughtIntoBounds() {
         CHECK.due("2 words over a threshold below 0", emptied(Integer.MIN_VALUE, false), true);
+        CHECK.due("2 words over -1", emptied(-1, false), true);
         CHECK.due("2 words over 0", emptied(0, false), true);
         CHECK.due("2 words over 1", emptied(1, false), true);
         CHECK.due("2 words over 2", emptied(2, false), false);
-        CHECK.due("no words over a threshold below 0", emptiedWithoutGarbage(-5), false);
+        CHECK.due("no words over 0", emptiedWithoutGarbage(0), false);
+        CHECK.due("no words over -1, which is 0", emptiedWithoutGarbage(-1), false);
+        CHECK.due("no words over a threshold far below 0", emptiedWithoutGarbage(Integer.MIN_VALUE), false);
         CHECK.due("128 words over 127", emptied(127, true), true);
         CHECK.due("128 words over 128", emptied(128, true), false);
-        CHECK.due("128 words over a threshold above 128", emptied(Integer.MAX_VALUE, true), false);
+        CHECK.due("128 words over 129, which is 128", emptied(129, true), false);
+        CHECK.due("128 words over a threshold far above 128", emptied(Integer.MAX_VALUE, true), false);
     }
 
     private static boolean emptied(int threshold, boolean allGarbage) {

@@ -3,25 +3,9 @@ public final class ReportsTest {
     private static final Check CHECK = new Check();
 
     public static void main(String[] args) {
-        wrongInputs();
         seenWordsAreOfTheLatestCycle();
         freedRegionIsUsedAgain();
         CHECK.end();
-    }
-
-    private static void wrongInputs() {
-        ForwardHeap heap = new ForwardHeap(5, 0);
-        heap.alloc(0, 3, 1);
-        for (int bad : new int[] {-1, 5, 16, Integer.MIN_VALUE, Integer.MAX_VALUE}) {
-            CHECK.refused("region " + bad, heap, IndexOutOfBoundsException.class, () -> heap.region(bad, 0));
-            CHECK.refused("region " + bad + " and what", heap, IndexOutOfBoundsException.class,
-                () -> heap.region(bad, 7));
-        }
-        for (int other : new int[] {-1, 3, Integer.MIN_VALUE, Integer.MAX_VALUE}) {
-            CHECK.due("what " + other, heap.region(0, other), -1);
-            CHECK.due("count " + other, heap.count(other), -1);
-        }
-        CHECK.due("the last region", heap.region(4, 0), 0);
     }
 
     private static void seenWordsAreOfTheLatestCycle() {
