@@ -3,15 +3,23 @@ import java.lang.reflect.Field;
 import java.lang.reflect.Method;
 import java.lang.reflect.Modifier;
 import java.util.Arrays;
+import java.util.Map;
 import java.util.Set;
 import java.util.TreeSet;
+import java.util.stream.Collectors;
 
 /** The public face is the document's, and nothing else of the class can be reached from outside. */
 public final class FaceTest {
     private static final Set<String> METHODS = Set.of(
-        "int alloc(int,int,int)", "void move(int,int)", "boolean drop(int)", "int read(int,int,int)",
-        "int write(int,int,int)", "int tag(int)", "boolean same(int,int)", "int where(int)", "int begin()",
-        "int work(int)", "int collect()", "int region(int,int)", "int count(int)");
+        "int alloc(int,int,int) index argument", "void move(int,int) index", "boolean drop(int) index",
+        "int read(int,int,int) index state", "int write(int,int,int) index state", "int tag(int) index state",
+        "boolean same(int,int) index", "int where(int) index", "int begin()", "int work(int) argument",
+        "int collect()", "int region(int,int) index", "int count(int)");
+
+    private static final Map<Class<?>, String> THROWN = Map.of(
+        IndexOutOfBoundsException.class, " index",
+        IllegalStateException.class, " state",
+        IllegalArgumentException.class, " argument");
 
     private static final Check CHECK = new Check();
 
@@ -34,7 +42,8 @@ public final class FaceTest {
                 continue;
             }
             names.add(method.getName());
-            seen.add(method.getReturnType() + " " + method.getName() + parameters(method.getParameterTypes()));
+            seen.add(method.getReturnType() + " " + method.getName() + parameters(method.getParameterTypes())
+                + thrown(method.getExceptionTypes()));
             CHECK.due(method + " is public and no more", method.getModifiers(), Modifier.PUBLIC);
         }
         CHECK.due("the methods are " + seen, seen.equals(METHODS), true);
@@ -46,6 +55,7 @@ public final class FaceTest {
         CHECK.due("constructors", constructors.length, 1);
         CHECK.due("constructor", parameters(constructors[0].getParameterTypes()).equals("(int,int)"), true);
         CHECK.due("constructor's modifiers", constructors[0].getModifiers(), Modifier.PUBLIC);
+        CHECK.due("constructor's exceptions", constructors[0].getExceptionTypes().length, 0);
     }
 
     private static void fieldsAreTheFace() {
@@ -53,7 +63,15 @@ public final class FaceTest {
             boolean none = field.getName().equals("NONE");
             CHECK.due("public " + field.getName(), Modifier.isPublic(field.getModifiers()), none);
             CHECK.due("private " + field.getName(), Modifier.isPrivate(field.getModifiers()), !none);
+            if (none) {
+                CHECK.due("NONE is an int", field.getType() == int.class, true);
+                CHECK.due("NONE is a constant", field.getModifiers(), Modifier.PUBLIC | Modifier.STATIC | Modifier.FINAL);
+            }
         }
+    }
+
+    private static String thrown(Class<?>[] types) {
+        return Arrays.stream(types).map(type -> THROWN.getOrDefault(type, " " + type)).collect(Collectors.joining());
     }
 
     private static String parameters(Class<?>[] types) {
